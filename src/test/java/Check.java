@@ -1,0 +1,67 @@
+/** Counts the answers of one test that are not as due, and tells them. */
+final class Check {
+    private final String test;
+    private int calls;
+    private int wrong;
+
+    Check(String test) {
+        this.test = test;
+    }
+
+    void due(String call, long got, long want) {
+        calls++;
+        if (got != want) {
+            wrong++;
+            if (wrong <= 40) {
+                System.out.println(test + ": " + call + " answered " + got + ", due is " + want);
+            }
+        }
+    }
+
+    void due(String call, boolean got, boolean want) {
+        due(call, got ? 1 : 0, want ? 1 : 0);
+    }
+
+    /** Ends the test: exit code 1 if an answer was wrong. */
+    void end() {
+        System.out.println(test + ": " + calls + " answers, " + wrong + " not as due");
+        if (wrong != 0 || calls == 0) {
+            System.exit(1);
+        }
+    }
+
+    /** Feeds a text, 24 signs a call: how many there are then. */
+    static int feed(WristPort x, String text) {
+        int there = x.count(10);
+        for (int at = 0; at < text.length(); at += 24) {
+            there = x.feed(eight(text, at), eight(text, at + 8), eight(text, at + 16));
+        }
+        return there;
+    }
+
+    static long eight(String text, int from) {
+        long bytes = 0;
+        for (int i = from; i < from + 8; i++) {
+            bytes = bytes << 8 | (i < text.length() ? text.charAt(i) : 0);
+        }
+        return bytes;
+    }
+
+    static int port(WristPort x, String text) {
+        feed(x, text);
+        return x.port();
+    }
+
+    static int day(WristPort x, String text) {
+        feed(x, text);
+        return x.day();
+    }
+
+    static WristPort with(String text) {
+        WristPort x = new WristPort();
+        if (port(x, text) != 0) {
+            throw new IllegalArgumentException(text);
+        }
+        return x;
+    }
+}
