@@ -359,7 +359,8 @@ public final class WristPort {
         if (!isWithin(quarters, 1, FORESEEN)) {
             return NONE;
         }
-        goOn(quarters);
+        trial.copy(now);
+        passQuarters(quarters);
         int late = 0;
         for (int i = 0; i < currentPort.size; i++) {
             if (trial.outOf(i) < 0) {
@@ -515,7 +516,8 @@ public final class WristPort {
     }
 
     private static int plainOut(int beats, int quarters) {
-        return wrapOut((beats / 4 - QUARTER_MINUTES) * quarters);
+        int minutes = (beats / 4 - QUARTER_MINUTES) * quarters;
+        return Math.floorMod(minutes - FARTHEST_BEHIND, ROUND_THE_CLOCK) + FARTHEST_BEHIND;
     }
 
     // ---- through whom a time comes ----
@@ -594,7 +596,8 @@ public final class WristPort {
     }
 
     public int steady() {
-        goOn(1);
+        trial.copy(now);
+        currentPort.passQuarter(trial);
         int who = NONE;
         int least = 0;
         for (int i = 0; i < currentPort.size; i++) {
@@ -875,10 +878,6 @@ public final class WristPort {
         return (bits >> place & 1) != 0;
     }
 
-    private static int wrapOut(int minutes) {
-        return Math.floorMod(minutes - FARTHEST_BEHIND, ROUND_THE_CLOCK) + FARTHEST_BEHIND;
-    }
-
     private int everybody() {
         return (1 << currentPort.size) - 1;
     }
@@ -889,13 +888,9 @@ public final class WristPort {
         }
     }
 
-    private void goOn(int quarters) {
+    private int outLater(int person, int quarters) {
         trial.copy(now);
         passQuarters(quarters);
-    }
-
-    private int outLater(int person, int quarters) {
-        goOn(quarters);
         return trial.outOf(person);
     }
 
@@ -1145,11 +1140,6 @@ public final class WristPort {
             areTold = false;
         }
 
-        boolean readFrom(Tape tape) {
-            areTold = true;
-            return readTests(tape, 0);
-        }
-
         private void put(int step) {
             if (size < steps.length) {
                 steps[size] = step;
@@ -1157,6 +1147,7 @@ public final class WristPort {
             }
         }
 
+        /** Takes an E; the depth is how many not and ( ) it lies within. */
         private boolean readTests(Tape tape, int depth) {
             boolean fine = readTest(tape, depth);
             int join = tape.isWord("and") ? AND : tape.isWord("or") ? OR : NOTHING;
@@ -1346,8 +1337,9 @@ public final class WristPort {
             if (moods.areTold) {
                 return tape.refuse(Tape.AGAIN);
             }
+            moods.areTold = true;
             tape.advance();
-            return moods.readFrom(tape);
+            return moods.readTests(tape, 0);
         }
 
         private boolean readPerson(Tape tape) {
@@ -1640,11 +1632,15 @@ public final class WristPort {
         }
 
         int trueTime() {
-            return Math.floorMod(quarters * QUARTER_MINUTES, ROUND_THE_CLOCK);
+            return quarters * QUARTER_MINUTES % ROUND_THE_CLOCK;
         }
 
         int outOf(int person) {
-            return wrapOut(times[person] - trueTime());
+            int out = times[person] - trueTime();
+            if (out < FARTHEST_BEHIND) {
+                return out + ROUND_THE_CLOCK;
+            }
+            return out > FARTHEST_AHEAD ? out - ROUND_THE_CLOCK : out;
         }
 
         void takeTime(int person, int other) {
