@@ -80,8 +80,10 @@ public final class AheadTest {
         CHECK.due("nobody's", new WristPort().first(), -1);
         x = Check.with("person a plain beats 28; sets a 48;");
         CHECK.due("by the 96th", x.noon(0), 96);
+        CHECK.due("first by the 96th", x.first(), 0);
         x = Check.with("person a plain beats 28; sets a 47;");
         CHECK.due("by the 97th", x.noon(0), -1);
+        CHECK.due("first by the 97th", x.first(), -1);
     }
 
     private static void meets() {

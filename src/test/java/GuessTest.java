@@ -148,6 +148,35 @@ public final class GuessTest {
         CHECK.due("103", x.fits(2), 103);
     }
 
+    /** Six that are so, then fewer: what is no longer SEEN or TOLD counts no more. */
+    private static void sixOfEach() {
+        WristPort x = Check.with(THREE);
+        x.mark(0, false);
+        for (int i = 1; i <= 6; i++) {
+            x.tell(i, -i);
+            x.see(1, 4 * i, 4 * i);
+        }
+        CHECK.due("56 to 59", x.fits(0), 4);
+        CHECK.due("b asked a", x.pairs(1), 2);
+        CHECK.due("b asked a", x.pairs(2), 1);
+        x.mark(1, false);
+        x.mark(0, true);
+        CHECK.due("none TOLD", x.fits(0), 141);
+        CHECK.due("none SEEN", x.pairs(0), 6);
+        for (int i = 1; i <= 6; i++) {
+            x.tell(40, 0);
+            x.see(0, 3, 10);
+        }
+        CHECK.due("other ones", x.fits(1), 60);
+        CHECK.due("other ones", x.pairs(1), 1);
+        x.mark(1, true);
+        CHECK.due("TOLD again", x.fits(0), 4);
+        CHECK.due("SEEN again", x.pairs(0), 1);
+        Check.port(x, THREE);
+        CHECK.due("a new PORT", x.fits(0), 141);
+        CHECK.due("a new PORT", x.pairs(0), 6);
+    }
+
     private static void whens() {
         WristPort x = new WristPort();
         CHECK.due("at once", x.when(), 1);
@@ -157,5 +186,9 @@ public final class GuessTest {
         CHECK.due("none parts them", x.when(), -1);
         x.tell(1, -9);
         CHECK.due("none there", x.when(), -1);
+        x = new WristPort();
+        x.tell(1, 25);
+        CHECK.due("160 alone", x.when(), -1);
+        sixOfEach();
     }
 }

@@ -98,6 +98,7 @@ public final class PeopleTest {
 
     private static void passes() {
         WristPort x = Check.with("person a plain beats 60; person b plain beats 64; sets a 3;");
+        CHECK.due("one QUARTER", x.passes(0, 1, 1), 0);
         CHECK.due("behind yet", x.passes(0, 1, 2), 0);
         CHECK.due("neither any more", x.passes(0, 1, 3), 1);
         CHECK.due("the other one", x.passes(0, 1, 4), 2);

@@ -155,8 +155,12 @@ public final class RandomRunsTest {
     }
 
     private void texts() {
-        feed(portText(true));
-        CHECK.due(run + "port", x.port(), m.port());
+        for (int i = below(3); i >= 0; i--) {
+            feed(portText(true));
+            CHECK.due(run + "port", x.port(), m.port());
+            CHECK.due(run + "quarter", x.quarter(), m.quarter());
+            facts();
+        }
         String port = portText(false);
         String text = below(3) == 0 ? port : spoilt(port);
         feed(text);

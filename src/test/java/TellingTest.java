@@ -9,6 +9,8 @@ public final class TellingTest {
         ports();
         portFaults();
         faultLeavesAll();
+        portsInARow();
+        moodsInARow();
         moodFaults();
         moodValues();
         days();
@@ -137,6 +139,35 @@ public final class TellingTest {
         CHECK.due("no UNDO", x.undo(), false);
         CHECK.due("a PORT of nobody", Check.port(x, ""), 0);
         CHECK.due("nobody", x.count(0), 0);
+    }
+
+    /** A PORT, and one with a fault, leave nothing behind for the next ones. */
+    private static void portsInARow() {
+        WristPort x = new WristPort();
+        String full = TWO + "asks pp qq;asks qq pp;sets pp 1;sets qq 2;moods 5;";
+        for (int i = 0; i < 4; i++) {
+            CHECK.due("full", Check.port(x, full), 0);
+            x.quarter();
+            CHECK.due("moods", x.person(0, 1), 65);
+            CHECK.due("time", x.person(1, 2), 15);
+            CHECK.due("a fault at the end", Check.port(x, full + "sets"), fault(1, full + "sets"));
+            CHECK.due("bare", Check.port(x, TWO), 0);
+            CHECK.due("time", x.person(0, 2), 0);
+            CHECK.due("asks", x.person(1, 5), -1);
+            x.quarter();
+            CHECK.due("no moods", x.person(0, 1), 60);
+            CHECK.due("a fault at the end", Check.port(x, full + "sets"), fault(1, full + "sets"));
+        }
+    }
+
+    /** Many laws, one after the other: each is the whole law. */
+    private static void moodsInARow() {
+        WristPort x = new WristPort();
+        for (int i = 0; i < 80; i++) {
+            Check.port(x, "person a old beats 60;moods " + i % 20 + ";");
+            x.quarter();
+            CHECK.due("moods " + i % 20, x.person(0, 1), 60 + i % 20);
+        }
     }
 
     private static void moodFaults() {
