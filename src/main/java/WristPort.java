@@ -263,10 +263,7 @@ public final class WristPort {
         if (!isPerson(person) || !isWithin(what, NONE, currentPort.size - 2)) {
             return NOT_SUCH;
         }
-        int rows = 1;
-        for (int others = 2; others < currentPort.size; others++) {
-            rows *= others;
-        }
+        int rows = rowsOf(currentPort.size - 1);
         int best = 0;
         int least = roundSum(person, 0);
         for (int number = 1; number < rows; number++) {
@@ -309,18 +306,24 @@ public final class WristPort {
         }
         int rest = number;
         for (int i = 0; i < others; i++) {
-            int rows = 1;
-            for (int k = 2; k < others - i; k++) {
-                rows *= k;
-            }
+            int rows = rowsOf(others - i - 1);
             pullForward(i, i + rest / rows);
             rest %= rows;
         }
         return others;
     }
 
+    /** In how many rows so many can stand; 1 at least. */
+    private static int rowsOf(int many) {
+        int rows = 1;
+        for (int k = 2; k <= many; k++) {
+            rows *= k;
+        }
+        return rows;
+    }
+
     private void pullForward(int to, int from) {
-        if (to < 0 || from >= row.length) {
+        if (to < 0 || from < to || from >= row.length) {
             return;
         }
         int who = row[from];
@@ -688,7 +691,8 @@ public final class WristPort {
         int best = 0;
         int least = Math.abs(outLater(person, AIM));
         for (int beats = 1; beats <= MOST_MOVED; beats++) {
-            for (int by = -beats; by <= beats; by += 2 * beats) {
+            for (int sign = -1; sign <= 1; sign += 2) {
+                int by = sign * beats;
                 // Beyond the bounds of beats it is as by fewer, which come ahead.
                 if (isWithin(now.beats[person] + by, LEAST_BEATS, MOST_BEATS)) {
                     trial.copy(now);
