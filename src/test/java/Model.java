@@ -8,8 +8,9 @@ import java.util.TreeMap;
 import java.util.function.ToIntFunction;
 
 /**
- * The document a second time, written without a look at the class: slow, with lists, maps and
- * new objects everywhere. RandomRunsTest holds the class against it.
+ * The document a second time, in another way: slow, with lists, maps and new objects everywhere.
+ * RandomRunsTest holds the class against it. It is by the same hand as the class and shares its
+ * readings of the document, so it shows slips, not misreadings.
  */
 final class Model {
     private static final List<String> KINDS = List.of("plain", "child", "old", "calm");
