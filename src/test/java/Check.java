@@ -57,6 +57,52 @@ final class Check {
         return x.day();
     }
 
+    /** The FAULT of this kind at the token right behind this text. */
+    static int fault(int kind, String before) {
+        return kind + 16 * before.length();
+    }
+
+    /** On a new object: this text, read as a PORT, answers this, and is taken. */
+    void duePort(String text, int want) {
+        WristPort x = new WristPort();
+        due("port: " + text, port(x, text), want);
+        due("taken: " + text, x.count(10), 0);
+    }
+
+    /** Behind this PORT: this text, read as a DAY, answers this, and is taken. */
+    void dueDay(String told, String text, int want) {
+        WristPort x = with(told);
+        due("day: " + text, day(x, text), want);
+        due("taken: " + text, x.count(10), 0);
+    }
+
+    /** A call that must leave all as it was: what all() told ahead of it. */
+    void dueSame(String call, WristPort x, String before) {
+        String then = all(x);
+        calls++;
+        if (!then.equals(before)) {
+            wrong++;
+            System.out.println(test + ": " + call + " changed " + before + " to " + then);
+        }
+    }
+
+    /** What the object tells of all there is but of MARKS, in one line. */
+    static String all(WristPort x) {
+        StringBuilder s = new StringBuilder();
+        for (int what = 0; what <= 10; what++) {
+            s.append(x.count(what)).append(' ');
+        }
+        for (int i = 0; i < 6; i++) {
+            for (int what = 0; what < 6; what++) {
+                s.append(x.person(i, what)).append(' ');
+            }
+        }
+        for (int what = 0; what < 3; what++) {
+            s.append(x.judged(what)).append(' ').append(x.pairs(what)).append(' ').append(x.fits(what)).append(' ');
+        }
+        return s.toString();
+    }
+
     static WristPort with(String text) {
         WristPort x = new WristPort();
         if (port(x, text) != 0) {

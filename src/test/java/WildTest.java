@@ -43,24 +43,11 @@ public final class WildTest {
             if (random.nextInt(3) == 0) {
                 act(random.nextInt(9));
             } else {
-                String before = all();
+                String before = Check.all(x);
                 question(random.nextInt(35));
-                CHECK.due("a question changed the state", before.equals(all()), true);
+                CHECK.dueSame("a question", x, before);
             }
         }
-    }
-
-    private String all() {
-        StringBuilder s = new StringBuilder();
-        for (int i = 0; i < 11; i++) {
-            s.append(x.count(i)).append(' ');
-        }
-        for (int i = 0; i < 6; i++) {
-            for (int what = 0; what < 6; what++) {
-                s.append(x.person(i, what)).append(' ');
-            }
-        }
-        return s.toString();
     }
 
     private void act(int which) {
