@@ -26,17 +26,6 @@ public final class AheadEdgesTest {
         CHECK.end();
     }
 
-    /** So many, all plain of 60 beats, at these times. */
-    private static WristPort at(int... times) {
-        StringBuilder s = new StringBuilder();
-        for (int i = 0; i < times.length; i++) {
-            char name = (char) ('a' + i);
-            s.append("person ").append(name).append(" plain beats 60;sets ").append(name).append(' ');
-            s.append(times[i]).append(';');
-        }
-        return Check.with(s.toString());
-    }
-
     /** One plain, of so many beats, at this time. */
     private static WristPort one(int beats, int time) {
         return Check.with("person a plain beats " + beats + ";sets a " + time + ";");
@@ -61,29 +50,29 @@ public final class AheadEdgesTest {
     /** "WORST: who is the farthest OUT, without its sign; of equal ones the first"; "NONE: nobody". */
     private static void worst() {
         CHECK.due("nobody", new WristPort().worst(), -1);
-        CHECK.due("alone and right", at(0).worst(), 0);
-        CHECK.due("all are right", at(0, 0, 0).worst(), 0);
-        CHECK.due("20 and -20", at(0, 20, 700).worst(), 1);
-        CHECK.due("-20 and 20", at(0, 700, 20).worst(), 1);
-        CHECK.due("-20 and 19", at(19, 700).worst(), 1);
-        CHECK.due("359 and -360", at(359, 360).worst(), 1);
-        CHECK.due("359 and -359", at(359, 361).worst(), 0);
-        CHECK.due("the last of six", at(1, 1, 1, 1, 1, 2).worst(), 5);
+        CHECK.due("alone and right", Check.at(0).worst(), 0);
+        CHECK.due("all are right", Check.at(0, 0, 0).worst(), 0);
+        CHECK.due("20 and -20", Check.at(0, 20, 700).worst(), 1);
+        CHECK.due("-20 and 20", Check.at(0, 700, 20).worst(), 1);
+        CHECK.due("-20 and 19", Check.at(19, 700).worst(), 1);
+        CHECK.due("359 and -360", Check.at(359, 360).worst(), 1);
+        CHECK.due("359 and -359", Check.at(359, 361).worst(), 0);
+        CHECK.due("the last of six", Check.at(1, 1, 1, 1, 1, 2).worst(), 5);
     }
 
     /** "all OUTS, the least first, of these the one at half of how many, cut (from 0)"; "-1000: nobody". */
     private static void middleAtHalf() {
         CHECK.due("nobody", new WristPort().middle(), -1000);
-        CHECK.due("of one", at(715).middle(), -5);
-        CHECK.due("of two", at(30, 10).middle(), 30);
-        CHECK.due("of three", at(30, 10, 20).middle(), 20);
-        CHECK.due("of four", at(30, 10, 40, 20).middle(), 30);
-        CHECK.due("of five", at(50, 30, 10, 40, 20).middle(), 30);
-        CHECK.due("of six", at(50, 30, 10, 40, 20, 60).middle(), 40);
-        CHECK.due("of equal ones", at(7, 7, 7, 1).middle(), 7);
-        CHECK.due("-360 is the least", at(360, 359).middle(), 359);
-        CHECK.due("-360 and -360", at(360, 360).middle(), -360);
-        CHECK.due("less than 0", at(719, 718, 717).middle(), -2);
+        CHECK.due("of one", Check.at(715).middle(), -5);
+        CHECK.due("of two", Check.at(30, 10).middle(), 30);
+        CHECK.due("of three", Check.at(30, 10, 20).middle(), 20);
+        CHECK.due("of four", Check.at(30, 10, 40, 20).middle(), 30);
+        CHECK.due("of five", Check.at(50, 30, 10, 40, 20).middle(), 30);
+        CHECK.due("of six", Check.at(50, 30, 10, 40, 20, 60).middle(), 40);
+        CHECK.due("of equal ones", Check.at(7, 7, 7, 1).middle(), 7);
+        CHECK.due("-360 is the least", Check.at(360, 359).middle(), 359);
+        CHECK.due("-360 and -360", Check.at(360, 360).middle(), -360);
+        CHECK.due("less than 0", Check.at(719, 718, 717).middle(), -2);
     }
 
     /** "NOON: by which of the QUARTERS to come (1 to 96)"; "NONE: others, not by 96". */
@@ -98,7 +87,7 @@ public final class AheadEdgesTest {
         CHECK.due("whose noon is none", one(28, 47).first(), -1);
         CHECK.due("the slowest", Check.with("person a old beats 20;").noon(0), -1);
         for (int who : NOBODY) {
-            CHECK.due("noon of " + who, at(0, 0).noon(who), -1);
+            CHECK.due("noon of " + who, Check.at(0, 0).noon(who), -1);
         }
         CHECK.due("nobody", new WristPort().noon(0), -1);
         WristPort x = one(60, 705);
@@ -135,10 +124,10 @@ public final class AheadEdgesTest {
     /** "FIRST: whose NOON is the soonest; of equal ones the first"; "NONE: none". */
     private static void firstOfEqualOnes() {
         CHECK.due("nobody", new WristPort().first(), -1);
-        CHECK.due("equal ones", at(0, 705, 706).first(), 1);
-        CHECK.due("the sooner one", at(0, 690, 706).first(), 2);
-        CHECK.due("the last of six", at(1, 1, 1, 1, 1, 710).first(), 5);
-        CHECK.due("all at once", at(5, 5, 5, 5, 5, 5).first(), 0);
+        CHECK.due("equal ones", Check.at(0, 705, 706).first(), 1);
+        CHECK.due("the sooner one", Check.at(0, 690, 706).first(), 2);
+        CHECK.due("the last of six", Check.at(1, 1, 1, 1, 1, 710).first(), 5);
+        CHECK.due("all at once", Check.at(5, 5, 5, 5, 5, 5).first(), 0);
     }
 
     /** "MEET of two: behind how many (0 to 96) their times are the same"; "NONE: others, the same, not by 96". */
@@ -149,10 +138,10 @@ public final class AheadEdgesTest {
             CHECK.due("the other way", Check.with(two + far + ";").meet(1, 0), far);
         }
         CHECK.due("behind 97", Check.with(two + "97;").meet(0, 1), -1);
-        CHECK.due("never", at(0, 1).meet(0, 1), -1);
+        CHECK.due("never", Check.at(0, 1).meet(0, 1), -1);
         CHECK.due("round the twelve hours", Check.with("person a plain beats 60;person b plain beats 64;"
                 + "sets a 40;sets b 670;").meet(0, 1), 90);
-        WristPort x = at(0, 0);
+        WristPort x = Check.at(0, 0);
         CHECK.due("the same", x.meet(0, 0), -1);
         CHECK.due("the same", x.meet(1, 1), -1);
         for (int who : NOBODY) {
@@ -168,7 +157,7 @@ public final class AheadEdgesTest {
         int[][] times = {{0}, {5, 5}, {719, 1, 0}, {359, 360, 0, 361}, {3, 1, 3, 1, 3}, {1, 2, 3, 4, 5, 6}};
         int[][] due = {{0}, {0, 1}, {1, 2, 0}, {0, 2, 3, 1}, {0, 2, 4, 1, 3}, {5, 4, 3, 2, 1, 0}};
         for (int k = 0; k < times.length; k++) {
-            WristPort x = at(times[k]);
+            WristPort x = Check.at(times[k]);
             for (int i = 0; i < due[k].length; i++) {
                 CHECK.due("ordered " + k + " " + i, x.ordered(i), due[k][i]);
             }
@@ -183,7 +172,7 @@ public final class AheadEdgesTest {
 
     /** "what NONE: how much; i: the i-th who asks; -2: others, no i-th one". */
     private static void roundWhat() {
-        WristPort x = at(0, 10, 20);
+        WristPort x = Check.at(0, 10, 20);
         CHECK.due("how much", x.round(0, -1), 0);
         CHECK.due("the first", x.round(0, 0), 1);
         CHECK.due("the second", x.round(0, 1), 2);
@@ -214,7 +203,7 @@ public final class AheadEdgesTest {
     private static void roundOfEqualOnes() {
         int[][] due = {{1, 2, 3, 4, 5, -2}, {0, 2, 3, 4, 5, -2}, {0, 1, 3, 4, 5, -2}, {0, 1, 2, 4, 5, -2},
             {0, 1, 2, 3, 5, -2}, {0, 1, 2, 3, 4, -2}};
-        WristPort x = at(0, 0, 0, 0, 0, 0);
+        WristPort x = Check.at(0, 0, 0, 0, 0, 0);
         for (int who = 0; who < 6; who++) {
             for (int i = 0; i < 6; i++) {
                 CHECK.due("round of " + who + " " + i, x.round(who, i), due[who][i]);
@@ -253,40 +242,40 @@ public final class AheadEdgesTest {
     /** "ASKINGS for so many minutes (0 to 60)"; "NONE: others"; just so far apart is near enough. */
     private static void askings0To60() {
         for (int minutes = 0; minutes <= 60; minutes++) {
-            CHECK.due("just so far", at(0, minutes).askings(minutes), 0);
-            CHECK.due("a minute more", at(0, minutes + 1).askings(minutes), 1);
-            CHECK.due("behind, too", at(minutes + 1, 0).askings(minutes), 1);
+            CHECK.due("just so far", Check.at(0, minutes).askings(minutes), 0);
+            CHECK.due("a minute more", Check.at(0, minutes + 1).askings(minutes), 1);
+            CHECK.due("behind, too", Check.at(minutes + 1, 0).askings(minutes), 1);
         }
         for (int minutes : new int[] {-1, 61, Integer.MIN_VALUE, Integer.MAX_VALUE}) {
-            CHECK.due("minutes " + minutes, at(0, 0).askings(minutes), -1);
+            CHECK.due("minutes " + minutes, Check.at(0, 0).askings(minutes), -1);
             CHECK.due("minutes " + minutes, new WristPort().askings(minutes), -1);
         }
         CHECK.due("nobody", new WristPort().askings(0), 0);
         CHECK.due("nobody", new WristPort().askings(60), 0);
-        CHECK.due("alone", at(360).askings(0), 0);
+        CHECK.due("alone", Check.at(360).askings(0), 0);
         // 700 and 20 are 40 apart round the hours: OUTS -20 and 20.
-        CHECK.due("past 0", at(700, 20).askings(40), 0);
-        CHECK.due("past 0", at(700, 20).askings(39), 1);
+        CHECK.due("past 0", Check.at(700, 20).askings(40), 0);
+        CHECK.due("past 0", Check.at(700, 20).askings(39), 1);
         // OUTS 359 and -360 are 719 apart.
-        CHECK.due("the farthest", at(359, 360).askings(60), 1);
+        CHECK.due("the farthest", Check.at(359, 360).askings(60), 1);
     }
 
     /** "the fewest ASKS ..; of equal ones the least set of who must ask (bits)". */
     private static void askingsFewestThenLeast() {
-        CHECK.due("all must but one", at(0, 100, 200, 300).askings(60), 7);
-        CHECK.due("the pair stays: the others are 12", at(0, 10, 100, 200).askings(10), 12);
-        CHECK.due("the pair stays: the others are 3", at(100, 200, 0, 10).askings(10), 3);
-        CHECK.due("two pairs: the least set", at(0, 5, 100, 105).askings(5), 3);
-        CHECK.due("two pairs, crossed", at(0, 100, 5, 105).askings(5), 5);
-        CHECK.due("three stay", at(0, 100, 2, 105, 4, 110).askings(4), 42);
-        CHECK.due("two threes: the least set", at(0, 100, 2, 102, 4, 104).askings(4), 21);
-        CHECK.due("six, none near", at(0, 61, 122, 183, 244, 305).askings(60), 31);
-        CHECK.due("six, all near", at(0, 12, 24, 36, 48, 60).askings(60), 0);
-        CHECK.due("the first alone is far", at(61, 0, 0, 0, 0, 0).askings(60), 1);
-        CHECK.due("the last alone is far", at(0, 0, 0, 0, 0, 61).askings(60), 32);
+        CHECK.due("all must but one", Check.at(0, 100, 200, 300).askings(60), 7);
+        CHECK.due("the pair stays: the others are 12", Check.at(0, 10, 100, 200).askings(10), 12);
+        CHECK.due("the pair stays: the others are 3", Check.at(100, 200, 0, 10).askings(10), 3);
+        CHECK.due("two pairs: the least set", Check.at(0, 5, 100, 105).askings(5), 3);
+        CHECK.due("two pairs, crossed", Check.at(0, 100, 5, 105).askings(5), 5);
+        CHECK.due("three stay", Check.at(0, 100, 2, 105, 4, 110).askings(4), 42);
+        CHECK.due("two threes: the least set", Check.at(0, 100, 2, 102, 4, 104).askings(4), 21);
+        CHECK.due("six, none near", Check.at(0, 61, 122, 183, 244, 305).askings(60), 31);
+        CHECK.due("six, all near", Check.at(0, 12, 24, 36, 48, 60).askings(60), 0);
+        CHECK.due("the first alone is far", Check.at(61, 0, 0, 0, 0, 0).askings(60), 1);
+        CHECK.due("the last alone is far", Check.at(0, 0, 0, 0, 0, 61).askings(60), 32);
         // 0 to 60 or 1 to 61: either end may ask; the first has the lower bit.
-        CHECK.due("either end", at(0, 30, 61).askings(60), 1);
-        CHECK.due("either end", at(61, 30, 0).askings(60), 1);
+        CHECK.due("either end", Check.at(0, 30, 61).askings(60), 1);
+        CHECK.due("either end", Check.at(61, 30, 0).askings(60), 1);
     }
 
     /** "one that leaves in so many (1 to 96) QUARTERS"; "NONE: others". */
@@ -314,8 +303,8 @@ public final class AheadEdgesTest {
     private static void trainBehindTrueTime() {
         int[][] due = {{0, 0}, {1, 0}, {359, 0}, {360, 360}, {361, 359}, {719, 1}};
         for (int[] one : due) {
-            CHECK.due("at " + one[0], at(one[0]).train(0, 1), one[1]);
-            CHECK.due("at " + one[0], at(one[0]).missed(1), one[1] > 0 ? 1 : 0);
+            CHECK.due("at " + one[0], Check.at(one[0]).train(0, 1), one[1]);
+            CHECK.due("at " + one[0], Check.at(one[0]).missed(1), one[1] > 0 ? 1 : 0);
         }
         // 2 ahead, a minute less a QUARTER: right behind the second, late behind the third.
         int[] late = {0, 0, 1};
@@ -333,10 +322,10 @@ public final class AheadEdgesTest {
 
     /** "MISSED: who comes too late to it (bits)". */
     private static void missedBits() {
-        CHECK.due("none", at(0, 1, 2, 3, 4, 5).missed(96), 0);
-        CHECK.due("all", at(719, 718, 717, 716, 715, 360).missed(96), 63);
-        CHECK.due("the first", at(719, 0).missed(1), 1);
-        CHECK.due("the last", at(0, 0, 0, 0, 0, 719).missed(1), 32);
-        CHECK.due("every other one", at(0, 719, 0, 719, 0, 719).missed(1), 42);
+        CHECK.due("none", Check.at(0, 1, 2, 3, 4, 5).missed(96), 0);
+        CHECK.due("all", Check.at(719, 718, 717, 716, 715, 360).missed(96), 63);
+        CHECK.due("the first", Check.at(719, 0).missed(1), 1);
+        CHECK.due("the last", Check.at(0, 0, 0, 0, 0, 719).missed(1), 32);
+        CHECK.due("every other one", Check.at(0, 719, 0, 719, 0, 719).missed(1), 42);
     }
 }

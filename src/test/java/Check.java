@@ -110,4 +110,15 @@ final class Check {
         }
         return x;
     }
+
+    /** So many, all plain of 60 beats, at these times. */
+    static WristPort at(int... times) {
+        StringBuilder s = new StringBuilder();
+        for (int i = 0; i < times.length; i++) {
+            char name = (char) ('a' + i);
+            s.append("person ").append(name).append(" plain beats 60;sets ").append(name).append(' ');
+            s.append(times[i]).append(';');
+        }
+        return with(s.toString());
+    }
 }
