@@ -15,9 +15,12 @@ public final class GuessEdgesTest {
         pairsOfFewAndOfSix();
         pairsOfJustOneAskingNow();
         pairsAtBothEnds();
+        seenInAnyOrder();
         look0To24();
         lookIfLessThanAll();
         lookForTheLeast();
+        lookByEachOfThirty();
+        lookAtBothEnds();
         toldOf1To40Quarters();
         toldFrom360BehindTo359();
         told6AtMost();
@@ -179,6 +182,19 @@ public final class GuessEdgesTest {
         CHECK.due("b asked a", x.pairs(1), 2);
     }
 
+    /** "all SEEN is so": what is to be later may be SEEN sooner. */
+    private static void seenInAnyOrder() {
+        WristPort x = Check.with(THREE);
+        x.see(0, 24, 10);
+        CHECK.due("a asked b", x.pairs(0), 1);
+        x.see(2, 0, 30);
+        CHECK.due("a asked b yet", x.pairs(0), 1);
+        CHECK.due("a", x.pairs(1), 1);
+        CHECK.due("b", x.pairs(2), 2);
+        x.see(1, 12, 11);
+        CHECK.due("none", x.pairs(0), 0);
+    }
+
     /** "LOOK for a PERSON: the least number of QUARTERS (0 to 24)"; "NONE: others, none parts them". */
     private static void look0To24() {
         CHECK.due("at once", Check.with(THREE).look(0), 0);
@@ -234,6 +250,27 @@ public final class GuessEdgesTest {
         CHECK.due("b", Check.with(THREE + "moods asked * 4;").look(1), 2);
         // On the hour all take a's time: parted at once, not later.
         CHECK.due("at once", Check.with(THREE + "asks b a;asks c a;").look(2), 0);
+    }
+
+    /** Of thirty PAIRS one alone parts them: the first one, one between, the last one. */
+    private static void lookByEachOfThirty() {
+        CHECK.due("a asked b: 29 and 1", Check.at(0, 10, 0, 0, 0, 0).look(0), 0);
+        CHECK.due("c asked f: 29 and 1", Check.at(0, 0, 0, 0, 0, 10).look(2), 0);
+        CHECK.due("f asked e: 29 and 1", Check.at(0, 0, 0, 0, 10, 0).look(5), 0);
+        CHECK.due("all thirty are as far", Check.at(0, 0, 0, 0, 0, 0).look(5), -1);
+        // None but these two asks: at once a is at 10 or at 0.
+        CHECK.due("of two", Check.with("person a plain beats 60;person b plain beats 60;sets b 10;moods asked * 4;")
+                .look(0), 0);
+    }
+
+    /** OUTS of -360 and of 359 are as far as themselves, too. */
+    private static void lookAtBothEnds() {
+        for (int time : new int[] {359, 360}) {
+            CHECK.due("both at " + time, Check.at(time, time).look(0), -1);
+            CHECK.due("all at " + time, Check.at(time, time, time, time, time, time).look(3), -1);
+        }
+        CHECK.due("359 or -360", Check.at(359, 360).look(0), 0);
+        CHECK.due("-360 or 359", Check.at(360, 359).look(0), 0);
     }
 
     /** "behind so many (1 to 40) QUARTERS"; "false: others". */

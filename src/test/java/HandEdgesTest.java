@@ -21,6 +21,7 @@ public final class HandEdgesTest {
         undoLeavesTheRest();
         judged60Minutes();
         judgedFromTheBegin();
+        judgedByHowMuch();
         judgedWhat();
         marks0To3();
         marksHold();
@@ -364,6 +365,19 @@ public final class HandEdgesTest {
         }
     }
 
+    /** FRIGHTS and SOOTHES of a DAY go by as much as is told, from 20 to 160 beats: how far OUT behind a QUARTER. */
+    private static void judgedByHowMuch() {
+        String[] lines = {"fright a 1", "fright a 1", "fright a 40", "fright a 60", "fright a 60", "fright a 60",
+            "soothe a 1", "soothe a 1", "soothe a 40", "soothe a 60", "soothe a 60", "soothe a 60"};
+        int[] beats = {62, 63, 20, 20, 100, 101, 65, 64, 100, 120, 80, 79};
+        int[] due = {0, 1, 0, 5, 25, 25, 1, 0, 0, 0, 10, 10};
+        for (int i = 0; i < lines.length; i++) {
+            WristPort x = Check.with("person a plain beats " + beats[i] + ";");
+            CHECK.due(lines[i], Check.day(x, lines[i] + ";quarter;"), 0);
+            CHECK.due(lines[i] + " from " + beats[i], x.judged(1), due[i]);
+        }
+    }
+
     /** "JUDGED, what 0: a line (NONE: none), 1: how far, 2: how often; -2: others". */
     private static void judgedWhat() {
         WristPort x = new WristPort();
@@ -486,6 +500,13 @@ public final class HandEdgesTest {
         }
         x = Check.with(six.toString());
         CHECK.due("six", x.count(0), 6);
+        CHECK.due("a DAY of six", Check.day(x, "ask a f;ask f a;ask e f;"), 0);
+        CHECK.due("how often in the DAY", x.judged(2), 3);
+        CHECK.due("nobody yet", x.count(4), 0);
+        for (int i = 0; i < 6; i++) {
+            x.ask(i, (i + 1) % 6);
+            CHECK.due("asked of all", x.count(4), i + 1);
+        }
         CHECK.due("beats of all", x.count(3), 960);
         CHECK.due("all are OUT", x.count(5), 63);
     }

@@ -56,6 +56,12 @@ public final class MoodsEdgesTest {
         fault(5, "((((1 and (", "3");
         fault(5, "((((1 and not ", "3");
         mood("(((1 and (5 < 9))))", 1);
+        // As much as can wait for its right side: at each depth an E, a TEST, a SUM and a PRODUCT.
+        for (int last = 0; last <= 1; last++) {
+            mood("0 or 0 < 0 + 1 * (".repeat(4) + "0 or 0 < 0 + 1 * " + last + "))))", last);
+            mood("1 and 6 < 7 * (".repeat(4) + "1 and 6 < 7 * " + last + "))))", last);
+        }
+        mood("9 - 2 * (9 - 2 * (9 - 2 * (9 - 2 * (9 - 2 * 3))))", 3);
         fault(1, "((((7)))", ";");
         fault(1, "((((7))))", ")");
     }

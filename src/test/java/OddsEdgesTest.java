@@ -20,6 +20,7 @@ public final class OddsEdgesTest {
         yearsWhat();
         yearsIfThereArePersons();
         yearsOfOne();
+        yearsOfSix();
         yearsLeaveAll();
         CHECK.end();
     }
@@ -102,6 +103,9 @@ public final class OddsEdgesTest {
         CHECK.due("twice: 50", x.chance(0, 50, 2, 10), 1000000);
         CHECK.due("twice: not 51", x.chance(0, 51, 2, 10), 0);
         CHECK.due("without: 20", x.chance(0, 21, 1, 0), 0);
+        WristPort cut = Check.with("person a plain beats 63;");
+        CHECK.due("63 and 20 is 83: 5", cut.chance(0, 5, 1, 10), 1000000);
+        CHECK.due("63 and 20 is not 84", cut.chance(0, 6, 1, 10), 0);
         CHECK.due("b is not frightened then", x.chance(1, 6, 1, 10), 0);
         CHECK.due("b's own", x.chance(1, 5, 1, 10), 1000000);
         x = Check.with("person a calm beats 60;moods 0 - 20;");
@@ -249,6 +253,22 @@ public final class OddsEdgesTest {
                 CHECK.due("beats by " + seed + " behind " + q, x.years(seed, q, 2), beats);
             }
         }
+    }
+
+    /** "how often one was asked in these, on the hour, too": of six, all. */
+    private static void yearsOfSix() {
+        StringBuilder six = new StringBuilder();
+        for (char name = 'a'; name <= 'f'; name++) {
+            six.append("person ").append(name).append(" plain beats 160;");
+        }
+        WristPort x = Check.with(six + "asks a b;asks b c;asks c d;asks d e;asks e f;asks f a;");
+        x.ask(5, 0);
+        x.quarter();
+        // From 1 the first three DRAWS are 3: nothing, but QUARTERS.
+        CHECK.due("ahead of the hour", x.years(1, 2, 0), 0);
+        CHECK.due("on the hour", x.years(1, 3, 0), 6);
+        CHECK.due("25 a QUARTER", x.years(1, 3, 1), 100);
+        CHECK.due("beats of all", x.years(1, 3, 2), 960);
     }
 
     /** "g becomes (g * 1103515245 + 12345) modulo 2147483648". */

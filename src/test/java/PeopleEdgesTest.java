@@ -24,6 +24,7 @@ public final class PeopleEdgesTest {
         together0To96();
         cureFrom60LessTo60More();
         cureWithin20To160();
+        cureToJust20AndJust160();
         cureOfEqualOnes();
         cureBehind24();
         CHECK.end();
@@ -262,6 +263,12 @@ public final class PeopleEdgesTest {
         for (int who : new int[] {-1, 4, 6, Integer.MIN_VALUE, Integer.MAX_VALUE}) {
             CHECK.due("teacher of " + who, Check.with(a).teacher(who), -1);
         }
+        CHECK.due("the first of all", Check.at(0, 10).teacher(1), 0);
+        CHECK.due("the last of six", Check.at(5, 5, 5, 5, 5, 0).teacher(0), 5);
+        CHECK.due("the first of six", Check.at(0, 5, 5, 5, 5, 5).teacher(5), 0);
+        // Each is asked now: c is 10 behind now, and 14 ahead behind 24 QUARTERS; d is 12 ahead.
+        CHECK.due("c as she is now", Check.with("person a plain beats 60;person b plain beats 64;person c plain beats 64;"
+                + "person d plain beats 60;sets a 50;sets b 30;sets c 710;sets d 12;").teacher(0), 2);
     }
 
     /** "nobody, if asking nobody is as good"; "NONE: others, nobody". */
@@ -272,6 +279,9 @@ public final class PeopleEdgesTest {
         CHECK.due("as good", Check.at(10, 710).teacher(0), -1);
         CHECK.due("as good", Check.at(10, 10).teacher(0), -1);
         CHECK.due("better by one", Check.at(10, 711).teacher(0), 1);
+        // Right behind 24 QUARTERS, not behind 23 or 25, without asking as by asking.
+        CHECK.due("as good behind 24", two(64, 696, 60, 696).teacher(0), -1);
+        CHECK.due("better behind 24", two(64, 697, 60, 696).teacher(0), 1);
         CHECK.due("worse by one", Check.at(10, 709).teacher(0), -1);
         CHECK.due("-360 is worse than 359", Check.at(360, 359).teacher(0), 1);
         CHECK.due("359 is better than -360", Check.at(359, 360).teacher(0), -1);
@@ -330,6 +340,13 @@ public final class PeopleEdgesTest {
         // 96 ahead: 26 a QUARTER more can't be: 24 behind by 160 beats.
         CHECK.due("not above 160", one(160, 96).cure(0), 0);
         CHECK.due("not above 160", one(159, 96).cure(0), 1);
+    }
+
+    /** Just 20, or just 160, is a cure: by these laws all others come back to 60, or to 100. */
+    private static void cureToJust20AndJust160() {
+        CHECK.due("60 less 40", Check.with("person a plain beats 60;sets a 240;moods (1-(beat=20))*(60-beat);").cure(0), -40);
+        CHECK.due("100 and 60", Check.with("person a plain beats 100;sets a 120;moods (1-(beat=160))*(100-beat);").cure(0), 60);
+        CHECK.due("101 and 59", Check.with("person a plain beats 101;sets a 120;moods (1-(beat=160))*(100-beat);").cure(0), 59);
     }
 
     /** "of equal ones the fewest, then SOOTHED". */

@@ -118,6 +118,12 @@ public final class PortEdgesTest {
         // Told as 0 is told, too.
         CHECK.duePort(TWO + "sets pp 0;sets pp 0;", Check.fault(3, TWO + "sets pp 0;sets "));
         CHECK.duePort(TWO + "sets rr 0;", Check.fault(2, TWO + "sets "));
+        // What a PORT ahead told is not told in the next one, of the sixth either.
+        x = new WristPort();
+        for (int i = 0; i < 4; i++) {
+            CHECK.due("the same PORT again", Check.port(x, persons(6) + "sets a 1;sets f 719;asks a b;asks f a;moods 1;"), 0);
+            CHECK.due("a FAULT at last", Check.port(x, persons(6) + "sets a 1;sets f 719;!") % 16, 1);
+        }
         CHECK.duePort("sets pp 0;" + TWO, Check.fault(2, "sets "));
     }
 
