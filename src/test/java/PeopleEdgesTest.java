@@ -195,6 +195,10 @@ public final class PeopleEdgesTest {
         CHECK.due("-1 and 1", two(56, 0, 64, 0).steady(), 0);
         CHECK.due("-2 and 1", two(52, 0, 64, 0).steady(), 1);
         CHECK.due("0, however far", two(64, 0, 60, 360).steady(), 1);
+        // OUTS are numbers: from 359 to -360 it changes by 719.
+        CHECK.due("past 359", two(64, 359, 68, 0).steady(), 1);
+        CHECK.due("to 359", two(64, 358, 68, 0).steady(), 0);
+        CHECK.due("past -360", two(56, 360, 68, 0).steady(), 1);
         CHECK.due("all alike", Check.at(1, 2, 3, 4, 5, 6).steady(), 0);
         CHECK.due("the last", Check.with("person a child beats 60;person b old beats 60;person c calm beats 60;").steady(), 2);
     }
