@@ -5,6 +5,7 @@ import java.util.HashMap;
 import java.util.List;
 import java.util.Map;
 import java.util.TreeMap;
+import java.util.TreeSet;
 import java.util.function.ToIntFunction;
 
 /**
@@ -668,47 +669,52 @@ final class Model {
         return what == -1 ? least : what >= 0 && what < best.size() ? best.get(what) : -2;
     }
 
-    /** All rows of so many asks now, tried one by one. */
-    private void askAll(World w, int left, int set, int minutes, TreeMap<Integer, Boolean> found) {
-        if (w.spread() <= minutes) {
-            found.put(set, true);
-        }
-        for (int a = 0; left > 0 && a < n(); a++) {
-            for (int b = 0; b < n(); b++) {
-                if (a != b) {
-                    World v = w.copy();
-                    v.ask(a, b);
-                    askAll(v, left - 1, set | 1 << a, minutes, found);
+    /** If no two of these have OUTS farther apart; the row tells by three bits each whose time one has. */
+    private boolean allNear(int row, int minutes) {
+        for (int i = 0; i < n(); i++) {
+            for (int j = 0; j < i; j++) {
+                if (Math.abs(now.out(row >> 3 * i & 7) - now.out(row >> 3 * j & 7)) > minutes) {
+                    return false;
                 }
             }
         }
+        return true;
     }
 
+    /** All rows that one ASK more can make of these, with who has asked (bits from 18 on). */
+    private TreeSet<Integer> oneAskMore(TreeSet<Integer> rows) {
+        TreeSet<Integer> more = new TreeSet<>();
+        for (int row : rows) {
+            for (int a = 0; a < n(); a++) {
+                for (int b = 0; b < n(); b++) {
+                    if (a != b) {
+                        int whose = row >> 3 * b & 7;
+                        more.add(row & ~(7 << 3 * a) | whose << 3 * a | 1 << 18 + a);
+                    }
+                }
+            }
+        }
+        return more;
+    }
+
+    /** By trying every row of ASKS, fewer ones first: nothing is taken for granted of who should ask whom. */
     int askings(int minutes) {
         if (minutes < 0 || minutes > 60) {
             return -1;
         }
-        // The search by all rows of asks is dear beyond two; then by those who stay.
-        for (int many = 0; many <= 2; many++) {
-            TreeMap<Integer, Boolean> found = new TreeMap<>();
-            askAll(now, many, 0, minutes, found);
-            if (!found.isEmpty()) {
-                return found.firstKey();
-            }
+        int start = 0;
+        for (int i = 0; i < n(); i++) {
+            start |= i << 3 * i;
         }
-        for (int many = 3; many <= n(); many++) {
-            for (int set = 0; set < 1 << n(); set++) {
-                List<Integer> stay = new ArrayList<>();
-                for (int i = 0; i < n(); i++) {
-                    if ((set & 1 << i) == 0) {
-                        stay.add(now.out(i));
-                    }
-                }
-                if (Integer.bitCount(set) == many && !stay.isEmpty()
-                        && Collections.max(stay) - Collections.min(stay) <= minutes) {
-                    return set;
+        TreeSet<Integer> rows = new TreeSet<>(List.of(start));
+        for (int many = 0; many <= n(); many++) {
+            for (int row : rows) {
+                // Who has asked stands in the highest bits: the first that is met is the least set.
+                if (allNear(row, minutes)) {
+                    return row >> 18;
                 }
             }
+            rows = oneAskMore(rows);
         }
         throw new IllegalStateException();
     }
